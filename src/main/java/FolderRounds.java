@@ -239,7 +239,6 @@ public final class FolderRounds {
                 loaded++;
             }
         }
-        toLoad.clear();
         return loaded;
     }
 

@@ -19,6 +19,8 @@ public final class VisitTest {
         test.learnsFromTable();
         test.ownStaysWhenLearning();
         test.dropsMarksOnlyWhenAllAreKnownToHaveThem();
+        test.dropsNoMarkThatOneMayLack();
+        test.keepsBytesThatAllHave();
         test.marksOfOwnEditAreNotDroppedEarly();
         test.loadsBySumDocumentAndOrder();
         test.passesWhatHasNoRoom();
@@ -190,6 +192,34 @@ public final class VisitTest {
         x.visit(1, 1, 15);
         check.due("not dropped by an empty cartridge", Check.row(4, x::marks), "0 1 1 0");
         check.due("it does not know of two", x.room(1), 92);
+    }
+
+    private void dropsNoMarkThatOneMayLack() {
+        for (int absent = 0; absent < 4; absent++) {
+            FolderRounds x = new FolderRounds();
+            int maker = (absent + 1) % 4;
+            x.erase(maker, 0);
+            for (int i = 0; i < 8; i++) {
+                int station = (maker + i) % 4;
+                if (station != absent) {
+                    x.visit(0, station, 15);
+                }
+            }
+            check.due("without station " + absent, Check.row(4, x::marks), absent == 0 ? "0 1 1 1"
+                    : absent == 1 ? "1 0 1 1" : absent == 2 ? "1 1 0 1" : "1 1 1 0");
+        }
+    }
+
+    private void keepsBytesThatAllHave() {
+        FolderRounds x = new FolderRounds();
+        x.edit(0, 0, 0, 0);
+        x.edit(0, 1, 1, 1);
+        for (int i = 0; i < 8; i++) {
+            x.visit(0, i % 4, 15);
+        }
+        check.due("all know that all have it", Check.known(x, 0, 3, 1), "1 0 0 0");
+        check.due("length 0 stands", Check.row(4, s -> x.siblings(s, 0)), "1 1 1 1");
+        check.due("length 1 stands", Check.row(4, s -> x.siblings(s, 1)), "1 1 1 1");
     }
 
     private void marksOfOwnEditAreNotDroppedEarly() {

@@ -15,7 +15,7 @@ public final class FolderRounds {
     private static final int ROOM_BESIDE_BYTES = 8;
     private static final int LENGTH_OF_A_MARK = -1;
     // A visit moves a few dozen versions at most, so it never comes to this limit.
-    private static final int NO_CUT = Integer.MAX_VALUE;
+    private static final int NO_CUT = 1000000;
 
     private final Station[] stations;
     private final Cartridge[] cartridges;

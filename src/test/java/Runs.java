@@ -16,6 +16,22 @@ final class Runs {
         return x;
     }
 
+    /** Cartridge 0 has three versions of station 0; station 1 has one of its own and one mark. */
+    static void loadThree(FolderRounds x) {
+        x.edit(0, 0, 1, 1);
+        x.edit(0, 1, 2, 2);
+        x.edit(0, 2, 3, 3);
+        x.edit(1, 8, 8, 8);
+        x.erase(1, 9);
+        x.visit(0, 0, 2);
+    }
+
+    static FolderRounds threeOnCartridge() {
+        FolderRounds x = new FolderRounds();
+        loadThree(x);
+        return x;
+    }
+
     static void editOften(FolderRounds x, int station, int document, int times) {
         for (int i = 0; i < times; i++) {
             x.edit(station, document, 1, i);
@@ -28,6 +44,19 @@ final class Runs {
         for (int left = bytes; left > 0; left -= 40) {
             x.edit(station, document, Math.min(left, 40), document);
             document++;
+        }
+    }
+
+    /** What a station lacks, as far as there is room for it, is brought there from another one. */
+    static void carry(FolderRounds x, int cartridge, int from, int to) {
+        x.visit(cartridge, from, 1 << to);
+        x.visit(cartridge, to, 0);
+    }
+
+    /** A cartridge goes from station 0 to station 3, so many times, loaded for all. */
+    static void goRound(FolderRounds x, int cartridge, int times) {
+        for (int i = 0; i < 4 * times; i++) {
+            x.visit(cartridge, i % 4, 15);
         }
     }
 }

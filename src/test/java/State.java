@@ -33,6 +33,7 @@ final class State {
         for (int station = 0; station < 4; station++) {
             addStanding(text, made(run), station);
             addKnown(text, made(run), station);
+            addLoading(text, made(run), station);
         }
         addCartridges(text, made(run));
         for (int cartridge = 0; cartridge < 3; cartridge++) {
@@ -72,12 +73,23 @@ final class State {
         }
     }
 
+    // The vectors of marks are seen only on a cartridge.
+    private static void addLoading(StringBuilder text, FolderRounds x, int station) {
+        x.lose(0);
+        x.visit(0, station, 15);
+        addCartridge(text, x, 0);
+    }
+
     private static void addCartridges(StringBuilder text, FolderRounds x) {
         for (int cartridge = 0; cartridge < 3; cartridge++) {
-            text.append("cartridge ").append(cartridge).append(" room ").append(x.room(cartridge)).append('\n');
-            for (int k = 0; hasItem(x, cartridge, k); k++) {
-                text.append(Check.item(x, cartridge, k)).append('\n');
-            }
+            addCartridge(text, x, cartridge);
+        }
+    }
+
+    private static void addCartridge(StringBuilder text, FolderRounds x, int cartridge) {
+        text.append("cartridge ").append(cartridge).append(" room ").append(x.room(cartridge)).append('\n');
+        for (int k = 0; hasItem(x, cartridge, k); k++) {
+            text.append(Check.item(x, cartridge, k)).append('\n');
         }
     }
 

@@ -325,20 +325,8 @@ public final class VisitTest {
         }
     }
 
-    /** Cartridge 0 has three versions of station 0; station 1 has one of its own and one mark. */
-    private static FolderRounds threeOnCartridge() {
-        FolderRounds x = new FolderRounds();
-        x.edit(0, 0, 1, 1);
-        x.edit(0, 1, 2, 2);
-        x.edit(0, 2, 3, 3);
-        x.edit(1, 8, 8, 8);
-        x.erase(1, 9);
-        x.visit(0, 0, 2);
-        return x;
-    }
-
     private void cutWhileUnloadingKeepsTheRest() {
-        FolderRounds x = threeOnCartridge();
+        FolderRounds x = Runs.threeOnCartridge();
         check.due("loaded", x.cut(0, 1, 15, 2), 0);
         check.due("two are unloaded", Check.row(3, d -> x.siblings(1, d)), "1 1 0");
         check.due("one is left", Check.item(x, 0, 0), "2 3 1 0 0 0");
@@ -352,7 +340,7 @@ public final class VisitTest {
     }
 
     private void cutBetweenUnloadingAndLoading() {
-        FolderRounds x = threeOnCartridge();
+        FolderRounds x = Runs.threeOnCartridge();
         check.due("loaded", x.cut(0, 1, 15, 3), 0);
         check.due("all are unloaded", Check.row(3, d -> x.siblings(1, d)), "1 1 1");
         check.due("nothing is on it", x.room(0), 100);
@@ -363,7 +351,7 @@ public final class VisitTest {
     }
 
     private void cutWhileLoading() {
-        FolderRounds x = threeOnCartridge();
+        FolderRounds x = Runs.threeOnCartridge();
         check.due("loaded", x.cut(0, 1, 15, 5), 2);
         check.due("what was loaded stays", Check.row(2, k -> x.item(0, k, 0)), "0 1");
         check.due("room", x.room(0), 81);
@@ -373,19 +361,19 @@ public final class VisitTest {
     }
 
     private void cutThatComesTooLateIsWhole() {
-        FolderRounds x = threeOnCartridge();
+        FolderRounds x = Runs.threeOnCartridge();
         check.due("just all", x.cut(0, 1, 15, 8), 5);
-        FolderRounds y = threeOnCartridge();
+        FolderRounds y = Runs.threeOnCartridge();
         check.due("more than all", y.cut(0, 1, 15, Integer.MAX_VALUE), 5);
-        FolderRounds z = threeOnCartridge();
+        FolderRounds z = Runs.threeOnCartridge();
         check.due("one less than all", z.cut(0, 1, 15, 7), 4);
-        FolderRounds v = threeOnCartridge();
+        FolderRounds v = Runs.threeOnCartridge();
         check.due("just the row, for nobody", v.cut(0, 1, 0, 3), 0);
         check.due("which is all", Check.known(v, 1, 0, 0), "1 0 0 0");
     }
 
     private void cutOfZero() {
-        FolderRounds x = threeOnCartridge();
+        FolderRounds x = Runs.threeOnCartridge();
         check.due("a full row", x.cut(0, 1, 15, 0), 0);
         check.due("it keeps its row", x.room(0), 70);
         check.due("nothing stands", x.siblings(1, 0), 0);
@@ -420,12 +408,12 @@ public final class VisitTest {
     }
 
     private void cutCountsWhatIsLeftOut() {
-        FolderRounds x = threeOnCartridge();
+        FolderRounds x = Runs.threeOnCartridge();
         Runs.fill(x, 3, 300);
         check.due("loaded", x.cut(0, 3, 15, 2), 0);
         check.due("both left out are counted", x.leftOut(), 2);
         check.due("one is left", Check.item(x, 0, 0), "2 3 1 0 0 0");
-        FolderRounds y = threeOnCartridge();
+        FolderRounds y = Runs.threeOnCartridge();
         check.due("loaded", y.cut(0, 0, 15, 2), 0);
         check.due("those of which nothing comes are counted", y.room(0), 89);
         check.due("none of them is left out", y.leftOut(), 0);

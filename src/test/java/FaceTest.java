@@ -33,7 +33,8 @@ public final class FaceTest {
     private static final List<String> IMPORTS = List.of("import java.util.ArrayList;", "import java.util.Arrays;",
             "import java.util.NoSuchElementException;");
     private static final List<String> RULED_OUT = List.of("->", "::", "try ", "finally", "synchronized", "assert ",
-            "package ", "System.out", "equals(", "hashCode", "toString", "Exact(", "static {", "MAX_VALUE", "MIN_VALUE");
+            "package ", "System.out", "equals(", "hashCode", "toString", "Exact(", "static {",
+            "MAX_VALUE", "MIN_VALUE");
 
     private final Check check = new Check("FaceTest");
 

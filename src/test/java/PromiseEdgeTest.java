@@ -42,6 +42,7 @@ public final class PromiseEdgeTest {
         test.sameOfItself();
         test.sameLooksAtNoBytes();
         test.sameLooksAtNoMarks();
+        test.sameLooksAtEachCounter();
         test.roomFrom100To0();
         test.itemOfFirstAndLast();
         test.itemOfEmpty();
@@ -435,6 +436,22 @@ public final class PromiseEdgeTest {
         check.due("a mark for one of three", x.same(2, 3) || x.same(3, 2), false);
         Runs.carry(x, 1, 3, 2);
         check.due("at both", x.same(2, 3), true);
+    }
+
+    // "the same versions with bytes, of all documents"
+    private void sameLooksAtEachCounter() {
+        for (int station = 0; station < 4; station++) {
+            FolderRounds x = new FolderRounds();
+            int other = (station + 1) % 4;
+            for (int document = 0; document < 10; document++) {
+                x.edit(station, document, 1, 1);
+            }
+            Runs.carry(x, 0, station, other);
+            check.due("all of them", x.same(station, other), true);
+            x.edit(station, 9, 1, 1);
+            check.due("one counter of the last is 1 more", x.same(station, other), false);
+            check.due("turned", x.same(other, station), false);
+        }
     }
 
     // Promise 15: "How much room a cartridge has left."

@@ -23,6 +23,7 @@ public final class VisitEdgeTest {
         test.loadingIsForThoseThatLack();
         test.equalKnowledgeIsNoLack();
         test.sumsDecideBeforeDocuments();
+        test.sumsTakeEachCounter();
         test.equalSumsAreByDocumentAndOrder();
         test.laterOnesFillTheRoomThatIsLeft();
         test.cutAfterEachNumber();
@@ -269,14 +270,28 @@ public final class VisitEdgeTest {
         x.erase(0, 9);
         check.due("loaded", x.visit(0, 0, 2), 4);
         check.due("documents", documentsOn(x, 0, 4), "9 2 1 0");
-        FolderRounds y = new FolderRounds();
-        y.edit(0, 5, 1, 1);
-        Runs.carry(y, 0, 0, 1);
-        y.edit(1, 5, 1, 1);
-        Runs.editOften(y, 1, 9, 2);
-        Runs.editOften(y, 1, 0, 3);
-        y.visit(0, 1, 8);
-        check.due("all counters are summed", documentsOn(y, 0, 3), "5 9 0");
+    }
+
+    private void sumsTakeEachCounter() {
+        for (int station = 0; station < 4; station++) {
+            FolderRounds x = new FolderRounds();
+            Runs.editOften(x, station, 0, 2);
+            x.edit(station, 9, 1, 1);
+            x.visit(0, station, 15);
+            check.due("of station " + station, documentsOn(x, 0, 2), "9 0");
+        }
+        FolderRounds x = new FolderRounds();
+        for (int station = 0; station < 3; station++) {
+            x.edit(station, 0, 1, 1);
+            x.visit(0, station, 15);
+        }
+        x.visit(0, 3, 0);
+        x.edit(3, 0, 1, 1);
+        Runs.editOften(x, 3, 5, 5);
+        Runs.editOften(x, 3, 9, 3);
+        x.visit(0, 3, 15);
+        check.due("the sum, not the greatest counter", documentsOn(x, 0, 3), "9 0 5");
+        check.due("four counters of 1", Check.item(x, 0, 1), "0 1 1 1 1 1");
     }
 
     private void equalSumsAreByDocumentAndOrder() {
